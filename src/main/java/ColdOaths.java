@@ -13,7 +13,7 @@ public final class ColdOaths {
     private static final int MOST_SHEETS = 4, MOST_CELLS = 60, MOST_PAIRS = 20, MOST_CHOSEN = 8;
     private static final int TOP_DIGIT = 9;
 
-    /** What is the second number of a pair of a CASE. */
+    /** From which second number of a pair of a CASE on which act it tells; below ACT_FROST it is a coat. */
     private static final int ACT_FROST = 4, ACT_RELEASE = 10, ACT_STOVE = 11, ACT_NO_STOVE = 17;
 
     private final Sheet[] sheets;
@@ -765,7 +765,7 @@ public final class ColdOaths {
         }
 
         boolean binds(int i) {
-            return isCold(swornBy[i], swornAt[i]);
+            return chillOf(swornBy[i], swornAt[i]) > 0;
         }
 
         int coldHours(int s) {

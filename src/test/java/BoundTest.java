@@ -58,6 +58,7 @@ public final class BoundTest {
         x.stove(1, 3);
         DUE.is("together(4) by a stove", x.together(4), 2);
         DUE.is("together(15) by a stove", x.together(15), 2);
+        DUE.is("at none of six", Days.of("o123456;p9;p0;p0;p0").together(15), -9);
     }
 
     private static void coated() {
@@ -70,6 +71,7 @@ public final class BoundTest {
         DUE.is("coated(2) by a stove", x.coated(2), 1);
         x.stove(0, 9);
         DUE.is("coated(2), the stove elsewhere", x.coated(2), -9);
+        DUE.is("none of four", Days.of("o1;p0;p0;p0;p0").coated(15), -9);
     }
 
     private static void refusalsOfSets() {

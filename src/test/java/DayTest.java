@@ -86,6 +86,7 @@ public final class DayTest {
         faulty("o5;p3,1", 6);
         faulty("o5;p3,00", 7);
         faulty("o5;p3,01", 7);
+        faulty("o5;p3,10", 6);
         faulty("o5;p3,x", 6);
         faulty("o5;p3;b2,2", 9);
         faulty("o5;p3;b2,00", 10);

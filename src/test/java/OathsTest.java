@@ -54,6 +54,9 @@ public final class OathsTest {
         DUE.is("release(0)", x.release(0), 0);
         DUE.is("release(0)", x.release(0), -1);
         DUE.is("sworn anew", x.swear(0, 1, 0), 0);
+        ColdOaths full = Days.of("o1;p0;p0,010,100,010,100,010,100");
+        DUE.is("of six", full.release(0), 5);
+        DUE.is("the last of five", full.ofOath(4, 0), 1);
     }
 
     private static void stove() {
@@ -160,6 +163,7 @@ public final class OathsTest {
         outside(x, 1, 17);
         outside(x, -1, 17);
         outside(x, 0, 0, 0, 1, 0, 18);
+        outside(x, 0, 0, 10, 1);
         // A pair that is none refuses the call, whatever act ahead of it can't be.
         outside(x, 5, 10, 0, 18);
     }
