@@ -1,8 +1,5 @@
 import java.lang.reflect.Method;
-import java.lang.reflect.Modifier;
 import java.util.ArrayList;
-import java.util.Arrays;
-import java.util.Comparator;
 import java.util.List;
 import java.util.Random;
 
@@ -24,19 +21,16 @@ public final class ModelTest {
         this.random = new Random(seed);
     }
 
-    public static void main(String[] args) throws ReflectiveOperationException {
+    public static void main(String[] args) {
         Due due = new Due();
-        Method[] calls = Arrays.stream(ColdOaths.class.getDeclaredMethods())
-            .filter(m -> Modifier.isPublic(m.getModifiers()))
-            .sorted(Comparator.comparing(Method::getName))
-            .toArray(Method[]::new);
+        Method[] calls = Call.all();
         for (long seed = 1; seed <= RUNS && due.allAsDue(); seed++) {
             new ModelTest(due, seed).run(calls);
         }
         due.end();
     }
 
-    private void run(Method[] calls) throws ReflectiveOperationException {
+    private void run(Method[] calls) {
         int hostility = random.nextInt(12);
         while (left > 0 && due.allAsDue()) {
             int turn = random.nextInt(100);
@@ -65,7 +59,7 @@ public final class ModelTest {
         return random.nextInt(random.nextInt(3) == 0 ? 10 : 4);
     }
 
-    private void tellDay() throws ReflectiveOperationException {
+    private void tellDay() {
         String text = text();
         int sheet = random.nextInt(4);
         int lane = random.nextInt(3);
@@ -117,7 +111,7 @@ public final class ModelTest {
         }
     }
 
-    private void tellCase() throws ReflectiveOperationException {
+    private void tellCase() {
         int sheet = random.nextInt(4);
         int lane = random.nextInt(3);
         int pairs = random.nextInt(random.nextInt(4) == 0 ? 21 : 5);
@@ -133,23 +127,16 @@ public final class ModelTest {
         }
     }
 
-    private void say(String name, int... args) throws ReflectiveOperationException {
+    private void say(String name, int... args) {
         if (left <= 0 || !due.allAsDue()) {
             return;
         }
         left--;
-        String call = name + Arrays.toString(args);
-        long got = answer(real, name, args);
+        String call = Call.told(name, args);
+        long got = Call.of(real, name, args);
         said.add(call + " " + got);
-        due.is(call, got, answer(model, name, args));
+        due.is(call, got, Call.of(model, name, args));
         due.is(call + ", then fault()", real.fault(), model.fault());
         due.is(call + ", then trace()", real.trace(), model.trace());
-    }
-
-    private static long answer(Object x, String name, int[] args) throws ReflectiveOperationException {
-        Class<?>[] types = new Class<?>[args.length];
-        Arrays.fill(types, int.class);
-        Object[] boxed = Arrays.stream(args).boxed().toArray();
-        return ((Number) x.getClass().getMethod(name, types).invoke(x, boxed)).longValue();
     }
 }
