@@ -143,6 +143,15 @@ final class BoundEdges {
         e.due(hot, 9, "stoves", 0, 0);
         e.due(hot, 1, "stoves", 1, 0);
         e.due(hot, 9, "stoves", 1, 2);
+        // It is asked of how all is now, not of how a text that failed would have it.
+        e.is("a text that fails", Days.tell(hot, "o00;p9;p9;p9,010,"), -100 - 17);
+        e.due(hot, 1, "stoves", 1, 0);
+        hot.coat(0, 3);
+        hot.frost(0, 5);
+        hot.swear(1, 0, 0);
+        e.due(hot, 2, "stoves", 0, 0);
+        e.due(hot, 3, "stoves", 1, 0);
+        e.due(hot, 5, "stoves", 3, 0);
         // An oath that fails by itself fails by each stove.
         ColdOaths failed = Days.of("o05;p0;p0,010");
         e.due(failed, 0, "stoves", 0, 0);

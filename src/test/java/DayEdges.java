@@ -259,9 +259,16 @@ final class DayEdges {
         e.due(x, 0, "many", 4);
         e.due(x, 0, "reading", 0, 0, 1);
         x.stove(0, 5);
+        // Questions by stoves and coats that are not leave nothing for the next day either.
+        x.stoves(0, 0);
+        x.coats(0);
         e.is("the same day again", Days.tell(x, "o9;p1"), 1);
+        e.due(x, -9, "ofHour", 0, 1);
         e.due(x, 108, "chill", 0, 0);
         e.due(x, -2, "back", 1);
+        x.stoves(0, 0);
+        e.is("and again", Days.tell(x, "o9;p1"), 1);
+        e.due(x, -9, "ofHour", 0, 1);
     }
 
     private void warmth() {

@@ -249,6 +249,7 @@ final class OathsEdges {
                 // In this text oath i is sworn at hour i.
                 e.due(x, i < gone ? i : i + 1, "ofOath", i, 2);
                 e.due(x, (i < gone ? i : i + 1) % 4, "ofOath", i, 0);
+                e.due(x, ((i < gone ? i : i + 1) + 1) % 4, "ofOath", i, 1);
             }
             e.due(x, -1, "ofOath", 5, 0);
         }
