@@ -5,7 +5,7 @@ import java.util.Random;
 
 /** Runs of up to 512 calls, chosen by a fixed seed, on the class and on Model: both answer alike, none throws. */
 public final class ModelTest {
-    private static final int RUNS = 3000, CALLS = 512;
+    private static final int RUNS = 5000, CALLS = 512;
     private static final int[] EDGES = {Integer.MIN_VALUE, Integer.MAX_VALUE, -100, -10, 9, 10, 11, 15, 16, 20, 21,
         59, 60, 61, 63, 64, 1000};
 
@@ -136,7 +136,11 @@ public final class ModelTest {
         long got = Call.of(real, name, args);
         said.add(call + " " + got);
         due.is(call, got, Call.of(model, name, args));
-        due.is(call + ", then fault()", real.fault(), model.fault());
-        due.is(call + ", then trace()", real.trace(), model.trace());
+        // What these two tell counts among the 512 calls, so that not every call is followed by them.
+        if (left > 1 && random.nextInt(3) == 0) {
+            left -= 2;
+            due.is(call + ", then fault()", real.fault(), model.fault());
+            due.is(call + ", then trace()", real.trace(), model.trace());
+        }
     }
 }
